@@ -21,7 +21,7 @@ final class ModelTest {
 
     public static void main(String[] args) {
         Due due = new Due();
-        for (int run = 0; run < 1500; run++) {
+        for (int run = 0; run < 400; run++) {
             new ModelTest(run, due).play();
         }
         due.finish("ModelTest");
