@@ -517,11 +517,10 @@ public final class UnlikeFerry {
         }
         Sheet from = sheets[k];
         trial.copyFrom(now);
-        // The machine casts the row before it reads a cell of it, and lets nothing be cast to anything.
-        int found = from.isRow && from.lane != lane ? CAST_FAULT : NO_FAULT;
+        int found = NO_FAULT;
         int came = 0;
         for (int i = 0; i < n && found == NO_FAULT; i++) {
-            found = from.faultAt(f + i);
+            found = from.faultAs(lane, f + i);
             if (found == NO_FAULT) {
                 if (trial.takeAboard(from.cells[f + i]) < 0) {
                     return REFUSED_BASE - i;
@@ -888,6 +887,11 @@ public final class UnlikeFerry {
                 return NULL_FAULT;
             }
             return i >= 0 && i < size ? NO_FAULT : INDEX_FAULT;
+        }
+
+        /** The machine casts the row before it reads a cell of it, and lets nothing be cast to any lane. */
+        int faultAs(int asLane, int i) {
+            return isRow && lane != asLane ? CAST_FAULT : faultAt(i);
         }
 
         void put(int i, int v) {

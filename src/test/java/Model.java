@@ -786,12 +786,8 @@ final class Model {
         int found = 0;
         int came = 0;
         try {
-            byte[] b = lane == 0 ? (byte[]) sheets[k] : null;
-            short[] s = lane == 1 ? (short[]) sheets[k] : null;
-            int[] j = lane == 2 ? (int[]) sheets[k] : null;
             for (int i = 0; i < n; i++) {
-                int p = lane == 0 ? b[f + i] : lane == 1 ? s[f + i] : j[f + i];
-                if (w.board(p) < 0) {
+                if (w.board(cell(sheets[k], lane, f + i)) < 0) {
                     return -20 - i;
                 }
                 came++;
@@ -806,6 +802,14 @@ final class Model {
         now = w;
         torn = found;
         return came;
+    }
+
+    private static int cell(Object sheet, int lane, int i) {
+        switch (lane) {
+            case 0: return ((byte[]) sheet)[i];
+            case 1: return ((short[]) sheet)[i];
+            default: return ((int[]) sheet)[i];
+        }
     }
 
     int torn() {

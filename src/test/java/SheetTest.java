@@ -9,6 +9,7 @@ final class SheetTest {
         reads();
         refusals();
         machineFaults();
+        noOneRead();
         tornStays();
         counts();
         DUE.finish("SheetTest");
@@ -159,6 +160,25 @@ final class SheetTest {
         DUE.is("read(2, 1, 0, 1), nothing", x.read(2, 1, 0, 1), 0);
         DUE.is("NULL", x.torn(), 1);
         DUE.is("1 waits still", x.rule(6), 2);
+    }
+
+    private static void noOneRead() {
+        for (int made = 0; made < 3; made++) {
+            UnlikeFerry x = three();
+            x.sheet(1, made, 2);
+            for (int lane = 0; lane < 3; lane++) {
+                for (int k = 1; k < 3; k++) {
+                    for (int f = -1; f < 4; f++) {
+                        String call = "read(" + k + ", " + lane + ", " + f + ", 0), made of lane " + made;
+                        x.read(2, 0, 0, 1);
+                        DUE.is("NULL ahead of it", x.torn(), 1);
+                        DUE.is(call, x.read(k, lane, f, 0), 0);
+                        DUE.is(call + ": no FAULT", x.torn(), 0);
+                    }
+                }
+            }
+            DUE.is("all wait still", x.rule(6), 7);
+        }
     }
 
     private static void tornStays() {
