@@ -22,14 +22,6 @@ final class BoatsTest {
         DUE.finish("BoatsTest");
     }
 
-    static UnlikeFerry allHere(String text) {
-        UnlikeFerry x = Due.told(text);
-        for (int p = 0; p < x.rule(0); p++) {
-            x.come(p);
-        }
-        return x;
-    }
-
     private static void mostBoats() {
         UnlikeFerry x = Due.told(FOUR);
         DUE.is("most(2)", x.most(2), 2);
@@ -41,14 +33,14 @@ final class BoatsTest {
         DUE.is("most(2), one aboard", x.most(2), 2);
         x.leave(2);
         DUE.is("most(2), one gone", x.most(2), 1);
-        UnlikeFerry y = allHere("admiral0 0 0 0 0;".repeat(9));
+        UnlikeFerry y = Due.allHere("admiral0 0 0 0 0;".repeat(9));
         int[] due = {4, 3, 2, 1};
         for (int n = 2; n <= 5; n++) {
             DUE.is("nine admirals, most(" + n + ")", y.most(n), due[n - 2]);
         }
         DUE.is("nobody here", Due.told("plain 0 0 0 0 0;plain 1 1 1 0 0;").most(2), 0);
-        DUE.is("seven, most(3)", allHere(SEVEN).most(3), 2);
-        DUE.is("the last fits nobody", allHere("plain 0 0 0 0 0;plain 1 1 1 0 0;plain 0 1 2 0 0;").most(2), 1);
+        DUE.is("seven, most(3)", Due.allHere(SEVEN).most(3), 2);
+        DUE.is("the last fits nobody", Due.allHere("plain 0 0 0 0 0;plain 1 1 1 0 0;plain 0 1 2 0 0;").most(2), 1);
     }
 
     private static void sets() {
@@ -75,7 +67,7 @@ final class BoatsTest {
         DUE.is("without 1, sets(0)", x.sets(0), 1);
         DUE.is("without 1, sets(1)", x.sets(1), 12);
         DUE.is("without 1, sets(3)", x.sets(3), 1);
-        UnlikeFerry y = allHere("admiral0 0 0 0 0;".repeat(9));
+        UnlikeFerry y = Due.allHere("admiral0 0 0 0 0;".repeat(9));
         y.seats(4);
         DUE.is("nine admirals, sets(0)", y.sets(0), 126);
     }
@@ -96,7 +88,7 @@ final class BoatsTest {
     }
 
     private static void letIn() {
-        UnlikeFerry x = allHere(SEVEN);
+        UnlikeFerry x = Due.allHere(SEVEN);
         DUE.is("seven, let(0)", x.let(0), 1);
         DUE.is("seven, let(1)", x.let(1), 2);
         x.leave(6);
@@ -126,10 +118,10 @@ final class BoatsTest {
     }
 
     private static void cheapest() {
-        UnlikeFerry x = allHere("plain 0 0 0 0 0;plain 0 1 1 0 0;plain 0 2 1 0 0;cost 2 5;");
+        UnlikeFerry x = Due.allHere("plain 0 0 0 0 0;plain 0 1 1 0 0;plain 0 2 1 0 0;cost 2 5;");
         DUE.is("cheap(0), two trades and a tale", x.cheap(0), 9);
         DUE.is("cheap(1)", x.cheap(1), 7);
-        UnlikeFerry y = allHere("plain 0 0 0 0 0;plain 0 1 1 0 0;plain 0 2 1 0 0;jack 0 3 2 0 0;cost 2 5;");
+        UnlikeFerry y = Due.allHere("plain 0 0 0 0 0;plain 0 1 1 0 0;plain 0 2 1 0 0;jack 0 3 2 0 0;cost 2 5;");
         DUE.is("cheap(0), with a jack", y.cheap(0), 2);
         DUE.is("cheap(1), with a jack", y.cheap(1), 11);
         y.board(2);
@@ -139,13 +131,13 @@ final class BoatsTest {
         DUE.is("cheap(0), tales are free", y.cheap(0), 9);
         DUE.is("cheap(2)", y.cheap(2), -1);
         DUE.is("cheap(-1)", y.cheap(-1), -1);
-        DUE.is("cheap(0), unlike already", allHere(FOUR).cheap(0), 0);
-        DUE.is("cheap(1), unlike already", allHere(FOUR).cheap(1), 3);
+        DUE.is("cheap(0), unlike already", Due.allHere(FOUR).cheap(0), 0);
+        DUE.is("cheap(1), unlike already", Due.allHere(FOUR).cheap(1), 3);
         DUE.is("nothing is changed", y.one(1, 1), 0);
     }
 
     private static void noChangeOfTowns() {
-        UnlikeFerry x = allHere("plain 0 0 0 0 0;plain 1 0 1 0 0;seats 2;");
+        UnlikeFerry x = Due.allHere("plain 0 0 0 0 0;plain 1 0 1 0 0;seats 2;");
         DUE.is("cheap(0), one town", x.cheap(0), -4);
         DUE.is("cheap(1), one town", x.cheap(1), -4);
         x.teach(1, 3);
@@ -164,7 +156,7 @@ final class BoatsTest {
         int[] pairs = {25, 30, 36, 25, 30};
         int[] least = {11, 10, 0, 11, 1};
         for (int k = 0; k < 5; k++) {
-            UnlikeFerry x = allHere(kinds[k] + " 0 2 0 0 0;seats 2;");
+            UnlikeFerry x = Due.allHere(kinds[k] + " 0 2 0 0 0;seats 2;");
             DUE.is(kinds[k] + ", send(3, 0)", x.send(3, 0), pairs[k]);
             DUE.is(kinds[k] + ", send(3, 1)", x.send(3, 1), least[k]);
             boolean towns = k == 2 || k == 3;
@@ -175,13 +167,13 @@ final class BoatsTest {
             DUE.is(kinds[k] + ", send(0, 2)", x.send(0, 2), -1);
             DUE.is(kinds[k] + ", send(0, -1)", x.send(0, -1), -1);
         }
-        UnlikeFerry nine = allHere("admiral0 0 0 0 0;".repeat(9));
+        UnlikeFerry nine = Due.allHere("admiral0 0 0 0 0;".repeat(9));
         DUE.is("a tenth, send(0, 0)", nine.send(0, 0), 36);
         DUE.is("he is not here", nine.rule(0), 9);
     }
 
     private static void sentWithOneAboard() {
-        UnlikeFerry x = allHere("plain 0 0 0 9 0;plain 1 1 1 9 0;plain 0 5 5 9 0;");
+        UnlikeFerry x = Due.allHere("plain 0 0 0 9 0;plain 1 1 1 9 0;plain 0 5 5 9 0;");
         DUE.is("nobody aboard, send(3, 0)", x.send(3, 0), 20);
         x.board(0);
         DUE.is("0 aboard, send(3, 0)", x.send(3, 0), 16);

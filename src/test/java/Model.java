@@ -551,7 +551,8 @@ final class Model {
                     set.add(now.all.get(p).copy());
                 }
             }
-            if (set.size() == now.seats && set.stream().allMatch(p -> p.is == 1 || p.is == 2)) {
+            boolean here = set.stream().allMatch(p -> p.is == 1 || p.is == 2);
+            if (set.size() == now.seats && here && !shareTown(set)) {
                 int cost = cheapest(set, 0, 0, least);
                 if (cost < least) {
                     least = cost;
@@ -560,6 +561,19 @@ final class Model {
             }
         }
         return leastSet == NONE ? NONE : what == 0 ? least : leastSet;
+    }
+
+    /** Whether no change of trades and tales can help, so that not all of them need be tried. */
+    private static boolean shareTown(List<Person> set) {
+        for (Person p : set) {
+            for (Person o : set) {
+                boolean counts = p.kind != 2 && p.kind != 3 && o.kind != 2 && o.kind != 3;
+                if (p != o && counts && p.town == o.town) {
+                    return true;
+                }
+            }
+        }
+        return false;
     }
 
     /** Tries every trade and tale for each of a set in turn, so long as it stays below a limit. */

@@ -1,7 +1,11 @@
 import java.util.Random;
 
-/** Runs of calls by a fixed seed, each answer held against the plain second ferry's. */
+/** Runs of 512 calls by a fixed seed, each answer held against the plain second ferry's. */
 final class ModelTest {
+    /** No more calls of one object are promised. */
+    private static final int CALLS = 512;
+    /** From here on there is room for one step more and for all that is asked at the end. */
+    private static final int LAST_STEP = 435;
     private static final String[] KINDS = {"plain", "plain", "plain", "liar", "admiral", "nameless", "jack"};
     private static final int[] ODD = {Integer.MIN_VALUE, Integer.MIN_VALUE + 1, -100, -21, -20, -11, -5, -4, -3, -2, -1, 6, 7, 8,
         9, 10, 11, 12, 20, 21, 30, 31, 40, 41, 60, 61, 127, 128, 160, 161, 255, 256, 511, 512, 513, 999, 1000, 65536,
@@ -21,7 +25,7 @@ final class ModelTest {
 
     public static void main(String[] args) {
         Due due = new Due();
-        for (int run = 0; run < 400; run++) {
+        for (int run = 0; run < 800; run++) {
             new ModelTest(run, due).play();
         }
         due.finish("ModelTest");
@@ -84,8 +88,7 @@ final class ModelTest {
     private void tell() {
         String text = someText();
         for (int i = 0; i < text.length(); i++) {
-            ferry.feed(text.charAt(i));
-            model.feed(text.charAt(i));
+            same("feed(" + (int) text.charAt(i) + ")", ferry.feed(text.charAt(i)), model.feed(text.charAt(i)));
         }
         same("text() of " + text, ferry.text(), model.text());
         same("fault()", ferry.fault(), model.fault());
@@ -93,12 +96,12 @@ final class ModelTest {
 
     private void play() {
         tell();
-        for (int p = 0; p < ferry.rule(0); p++) {
+        for (int p = 0; p < model.rule(0); p++) {
             if (random.nextInt(2) == 0) {
                 same("come(" + p + ")", ferry.come(p), model.come(p));
             }
         }
-        for (int i = 0; i < 40; i++) {
+        while (calls < LAST_STEP) {
             switch (random.nextInt(5)) {
                 case 0: change(); break;
                 case 1: ask(); break;
@@ -106,8 +109,13 @@ final class ModelTest {
                 case 3: sheets(); break;
                 default: bytes(); break;
             }
-            compareAll();
+            compareSome();
         }
+        compareAll();
+        while (calls < CALLS) {
+            compareSome();
+        }
+        due.is("run " + run + ", calls", calls, CALLS);
     }
 
     private void change() {
@@ -144,7 +152,7 @@ final class ModelTest {
         same("cheap(" + which + ")", ferry.cheap(which), model.cheap(which));
         same("send(" + town + "," + which + ")", ferry.send(town, which), model.send(town, which));
         same("last(" + set + ")", ferry.last(set), model.last(set));
-        if (random.nextInt(6) == 0) {
+        if (random.nextInt(12) == 0) {
             same("odds(" + v + "," + which + ")", ferry.odds(v, which), model.odds(v, which));
             same("mean(" + v + "," + which + ")", ferry.mean(v, which), model.mean(v, which));
         }
@@ -195,7 +203,7 @@ final class ModelTest {
     }
 
     private void bytes() {
-        if (random.nextInt(40) == 0) {
+        if (random.nextInt(10) == 0 && calls + 200 < LAST_STEP) {
             tell();
             return;
         }
@@ -203,6 +211,20 @@ final class ModelTest {
         int n = any(0, 5);
         same("feed(" + c + ")", ferry.feed(c), model.feed(c));
         same("end(" + n + ")", ferry.end(n), model.end(n));
+    }
+
+    private void compareSome() {
+        int p = any(-1, 9);
+        int what = any(-1, 10);
+        switch (random.nextInt(7)) {
+            case 0: same("rule(" + what + ")", ferry.rule(what), model.rule(what)); break;
+            case 1: same("count(" + what + ")", ferry.count(what), model.count(what)); break;
+            case 2: same("one(" + p + "," + what + ")", ferry.one(p, what), model.one(p, what)); break;
+            case 3: same("alike(" + p + ")", ferry.alike(p), model.alike(p)); break;
+            case 4: same("blocks(" + p + ")", ferry.blocks(p), model.blocks(p)); break;
+            case 5: same("torn()", ferry.torn(), model.torn()); break;
+            default: same("fault()", ferry.fault(), model.fault()); break;
+        }
     }
 
     private void compareAll() {

@@ -45,13 +45,13 @@ final class OddsTest {
     }
 
     private static void fourAdmirals() {
-        UnlikeFerry x = BoatsTest.allHere("admiral0 0 0 0 0;".repeat(4) + "seats 2;");
+        UnlikeFerry x = Due.allHere("admiral0 0 0 0 0;".repeat(4) + "seats 2;");
         odds(x, 5, 11, 16);
         mean(x, 5, 3, 4);
     }
 
     private static void nineAdmirals() {
-        UnlikeFerry x = BoatsTest.allHere("admiral0 0 0 0 0;".repeat(9));
+        UnlikeFerry x = Due.allHere("admiral0 0 0 0 0;".repeat(9));
         x.seats(5);
         odds(x, 1, 24977727L, 25000000L);
         x.seats(2);
