@@ -166,6 +166,15 @@ final class EdgeHoursTest {
         for (int p = 0; p < are.length; p++) {
             DUE.is("one(" + p + ", 6)", x.one(p, 6), are[p]);
         }
+        DUE.termsSay("each who WAITS, up to the last of nine");
+        UnlikeFerry nine = Due.told("plain0 0 0 1 0;".repeat(9));
+        for (int hours = 1; hours <= 2; hours++) {
+            nine.go(1);
+            for (int p = 0; p < 9; p++) {
+                DUE.is(hours + " hours, one(" + p + ", 4)", nine.one(p, 4), p == 0 ? 1 : 0);
+                DUE.is(hours + " hours, one(" + p + ", 6)", nine.one(p, 6), p == 0 ? 2 : hours == 1 ? 1 : 4);
+            }
+        }
     }
 
     private static void aheadRefused() {

@@ -9,6 +9,7 @@ final class EdgeOddsTest {
         noneGoesAllGo();
         aboardStay();
         manyWait();
+        someWait();
         fillingsAlone();
         DUE.finish("EdgeOddsTest");
     }
@@ -118,6 +119,27 @@ final class EdgeOddsTest {
         x.seats(5);
         odds("five seats", x, 5, 1, 2);
         mean("five seats", x, 5, 1, 2);
+    }
+
+    private static void someWait() {
+        // Of m who wait, each stays or not by a half: two or more in all but m + 1 of 2 to the m cases.
+        for (int here = 2; here <= 9; here++) {
+            UnlikeFerry x = EdgeBoatsTest.lastWait(here);
+            x.seats(2);
+            long all = 1L << here;
+            long some = all - here - 1;
+            long common = Long.lowestOneBit(some | all);
+            DUE.says(28, "Each who WAITS goes away by v out of ten, by himself; those TO COME do not count");
+            odds(here + " wait", x, 5, some / common, all / common);
+            DUE.says(29, "the mean of the most UNLIKE sets of SEATS out of those left HERE, others TO COME");
+            long quarters = here - 1;
+            long divisor = Math.min(4, Long.lowestOneBit(quarters));
+            mean(here + " wait", x, 5, quarters / divisor, 4 / divisor);
+        }
+        UnlikeFerry three = EdgeBoatsTest.lastWait(3);
+        three.seats(2);
+        odds("three wait", three, 3, 98, 125);
+        mean("three wait", three, 3, 98, 125);
     }
 
     private static void fillingsAlone() {

@@ -318,6 +318,9 @@ final class EdgeTextTest {
             fails(ONE.repeat(9) + " " + kind + " $", 127, 5);
         }
         fails(ONE.repeat(9) + "seats 2;" + "jack 0 0 0 0 0;", 134, 5);
+        fails(ONE.repeat(9) + "jacks 0 0 0 0 0;", 126, 2);
+        fails(ONE.repeat(9) + "7", 126, 2);
+        taken(ONE.repeat(9) + "seats 2;cost 1 1;here 8;", 12);
         UnlikeFerry x = Due.told(ONE.repeat(9));
         DUE.is("nine behind nine", Due.tell(x, ONE.repeat(9)), 9);
     }

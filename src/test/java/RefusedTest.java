@@ -128,8 +128,9 @@ final class RefusedTest {
         x.price(0, 7);
         x.keep(1);
         Due.tell(x, "5");
-        for (int i = 0; i < 6; i++) {
-            x.see(i % 4, i % 4 != 2);
+        for (int i = 0; i < 3; i++) {
+            x.see(0, true);
+            x.see(2, false);
         }
         x.sheet(0, 0, 2);
         x.lay(0, 0, 1);
@@ -250,6 +251,35 @@ final class RefusedTest {
             x.end(0);
             DUE.is("text() of " + text, Due.tell(x, text) < 0 ? 1 : 0, 1);
             same("text() of " + text, portrait(x, false), twin);
+            for (boolean asks : new boolean[] {true, false}) {
+                UnlikeFerry y = made.get();
+                y.end(0);
+                Due.tell(y, text);
+                UnlikeFerry other = made.get();
+                other.end(0);
+                same("asked behind text() of " + text, asked(y, asks), asked(other, asks));
+            }
         }
+    }
+
+    /** What an object answers about all that was told, or how it changes it. */
+    private static String asked(UnlikeFerry x, boolean asks) {
+        StringBuilder s = new StringBuilder();
+        for (int p = 0; p < 6; p++) {
+            if (asks) {
+                s.append(x.alike(p)).append(' ').append(x.blocks(p)).append(' ').append(x.last(1 << p)).append(' ');
+                s.append(x.send(p, 0)).append(' ').append(x.send(p, 1)).append(' ').append(x.most(p)).append(' ');
+            } else {
+                s.append(x.turn(p, 1, 5 - p)).append(' ').append(x.teach(p, p)).append(' ').append(x.calm(p, 3)).append(' ');
+                s.append(x.come(p)).append(' ').append(x.leave(p)).append(' ').append(x.see(p, true)).append(' ');
+            }
+        }
+        for (int what = 0; what < 4; what++) {
+            s.append(x.mean(3, what)).append(' ').append(x.odds(3, what)).append(' ').append(x.sets(what)).append(' ');
+            s.append(x.fill(what)).append(' ').append(x.let(what)).append(' ').append(x.cheap(what)).append(' ');
+            s.append(x.fits(what)).append(' ');
+        }
+        // These look ahead from what is, and come last: behind them nothing of a refused text could be found.
+        return s.append(asks ? x.when(1) : x.drift(5, 20, 1)).append(' ').append(x.ahead(3, 3)).toString();
     }
 }
