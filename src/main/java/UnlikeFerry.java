@@ -30,11 +30,11 @@ public final class UnlikeFerry {
     private static final int BYTES = 0, SHORTS = 1, INTS = 2;
     private static final int FAULT_BASE = -10, REFUSED_BASE = -20;
 
-    private final Tape tape = new Tape();
+    private final Reader reader = new Reader();
+    private final Tape tape = reader.tape;
     private final Crew now = new Crew();
     /** Calls that only look ahead, or may yet be refused, work here and leave what is now alone. */
     private final Crew trial = new Crew();
-    private final Reader reader = new Reader(tape, trial);
     private final Sets unlike = new Sets();
     private final Seen seen = new Seen();
     private final Crew[] images = new Crew[IMAGES];
@@ -78,7 +78,7 @@ public final class UnlikeFerry {
         if (textFault != NO_FAULT) {
             return FAULT_BASE - reader.place;
         }
-        now.copyFrom(trial);
+        now.copyFrom(reader.crew);
         seen.many = 0;
         for (int k = 0; k < IMAGES; k++) {
             imageStands[k] = false;
@@ -287,9 +287,13 @@ public final class UnlikeFerry {
             // A full set has more ONES than are aboard, so a FILLING always has one who WAITS.
             if ((aboard & ~set) == 0) {
                 int filled = 1 + unlike.packed[here & ~set];
-                letIn = filled > boats ? 0 : letIn;
-                boats = Math.max(boats, filled);
-                letIn |= filled == boats ? set & ~aboard : 0;
+                if (filled > boats) {
+                    boats = filled;
+                    letIn = 0;
+                }
+                if (filled == boats) {
+                    letIn |= set & ~aboard;
+                }
             }
         }
         if (boats == 0) {
@@ -942,13 +946,14 @@ public final class UnlikeFerry {
         }
     }
 
-    /** Reads a tape into a crew, token by token, up to the first fault. */
+    /** Reads its tape into its crew, token by token, up to the first fault. */
     private static final class Reader {
         private static final int END = 0, NAME = 1, NUMBER = 2, STOP = 3;
         private static final int NO_TOKEN = 1, MISPLACED = 2, OUT_OF_BOUNDS = 3, AGAIN = 4, TOO_MANY = 5, NOBODY = 6;
 
-        private final Tape tape;
-        private final Crew crew;
+        final Tape tape = new Tape();
+        /** What a text tells, before it is known whether it will be taken. */
+        final Crew crew = new Crew();
         int lines = 0;
         int fault = NO_FAULT;
         int place = 0;
@@ -958,11 +963,6 @@ public final class UnlikeFerry {
         private int waiting = 0;
         private boolean seatsTold = false;
         private boolean costTold = false;
-
-        Reader(Tape tape, Crew crew) {
-            this.tape = tape;
-            this.crew = crew;
-        }
 
         void tellAll() {
             restart();

@@ -1,13 +1,21 @@
+import java.io.IOException;
 import java.lang.reflect.Constructor;
 import java.lang.reflect.Field;
 import java.lang.reflect.Member;
 import java.lang.reflect.Method;
 import java.lang.reflect.Modifier;
+import java.nio.file.Files;
+import java.nio.file.Path;
 import java.util.ArrayList;
 import java.util.List;
 import java.util.TreeSet;
+import java.util.regex.Matcher;
+import java.util.regex.Pattern;
 
-/** The public face is the document's and no more, and what hides behind it keeps to rules 1, 2 and 5 of LANGUAGE.md. */
+/**
+ * The public face is the document's and no more, and what hides behind it keeps to rules 1, 2 and 5 of LANGUAGE.md; run
+ * from the project's folder.
+ */
 final class FaceTest {
     private static final String[] FACE = {
         "int feed(int)", "int end(int)", "int text()", "int fault()", "int rule(int)", "int one(int, int)",
@@ -20,8 +28,10 @@ final class FaceTest {
         "int lay(int, int, int)", "int read(int, int, int, int)", "int torn()", "int count(int)"};
     private static final Due DUE = new Due();
 
-    public static void main(String[] args) {
+    public static void main(String[] args) throws IOException {
         List<String> due = List.of(FACE);
+        document(due);
+        constants();
         List<String> open = new ArrayList<>();
         TreeSet<String> names = new TreeSet<>();
         for (Method m : UnlikeFerry.class.getDeclaredMethods()) {
@@ -47,6 +57,27 @@ final class FaceTest {
         DUE.is("final", Modifier.isFinal(UnlikeFerry.class.getModifiers()) ? 1 : 0, 1);
         inside(names);
         DUE.finish("FaceTest");
+    }
+
+    /** The list above is the one that stands in the document, in its order. */
+    private static void document(List<String> due) throws IOException {
+        String page = Files.readString(Path.of("../shared/DOC.md"));
+        Matcher line = Pattern.compile("    public (int|long) (\\w+)\\((.*?)\\);").matcher(page);
+        int i = 0;
+        while (line.find()) {
+            String parameters = line.group(3).replaceAll("(int|boolean) \\w+", "$1");
+            String told = line.group(1) + " " + line.group(2) + "(" + parameters + ")";
+            DUE.is(told + " is the document's call " + i, i < due.size() && told.equals(due.get(i)) ? 1 : 0, 1);
+            i++;
+        }
+        DUE.is("calls of the document", i, due.size());
+    }
+
+    private static void constants() {
+        DUE.is("BAD", UnlikeFerry.BAD, -1);
+        DUE.is("STATE", UnlikeFerry.STATE, -2);
+        DUE.is("FULL", UnlikeFerry.FULL, -3);
+        DUE.is("NONE", UnlikeFerry.NONE, -4);
     }
 
     private static String signature(Method m) {
