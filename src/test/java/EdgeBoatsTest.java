@@ -18,6 +18,7 @@ final class EdgeBoatsTest {
         letNone();
         letFirst();
         letOnlyWho();
+        letMostBoats();
         DUE.finish("EdgeBoatsTest");
     }
 
@@ -272,5 +273,23 @@ final class EdgeBoatsTest {
         UnlikeFerry z = Due.allHere("plain 0 0 0 9 0;plain 1 1 1 9 0;plain 1 2 2 9 0;plain 3 3 3 9 0;seats 2;");
         z.board(0);
         lets("0 is aboard", z, 1, 2);
+    }
+
+    private static void letMostBoats() {
+        DUE.says(24, "most boats are filled: the first of those by whom most are, not of all by whom one is");
+        // 0 fits only with 3 and 4, and of the four others no three are unlike; 1, 2, 3 leave 4, 5, 6.
+        UnlikeFerry x = Due.allHere("plain 0 0 0 9 0;plain 0 1 1 9 0;plain 1 0 2 9 0;plain 2 2 3 9 0;plain 3 3 4 9 0;"
+            + "plain 4 1 0 9 0;plain 0 4 2 9 0;");
+        DUE.is("0 is in a FILLING", x.last(8 + 16) & 1, 1);
+        lets("two boats without 0", x, 1, 2);
+        x.leave(6);
+        lets("6 gave up: one boat", x, 0, 1);
+        // With 3 aboard, 0 fits by 4 alone, 1 by 2 and by 4.
+        UnlikeFerry y = Due.allHere("plain 0 0 0 9 0;plain 0 1 1 9 0;plain 1 0 2 9 0;plain 2 2 3 9 0;plain 3 3 4 9 0;"
+            + "plain 4 1 0 9 0;plain 0 4 2 9 0;");
+        y.board(3);
+        lets("3 is aboard", y, 1, 2);
+        y.leave(5);
+        lets("3 is aboard, 5 gave up", y, 0, 1);
     }
 }

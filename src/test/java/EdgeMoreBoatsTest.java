@@ -10,6 +10,7 @@ final class EdgeMoreBoatsTest {
         cheapByKind();
         cheapMost();
         cheapLeastSet();
+        cheapApart();
         cheapHere();
         sendRefused();
         sendNone();
@@ -104,6 +105,16 @@ final class EdgeMoreBoatsTest {
         cheap("0 and 4, 1 and 4: one trade", x, 1, 17);
         x.leave(4);
         cheap("0 and 1: a trade, a tale", x, 4, 3);
+    }
+
+    private static void cheapApart() {
+        DUE.says(25, "an UNLIKE set of SEATS: any two of it, not only those who stand side by side");
+        cheap("0 and 2 of a town", Due.allHere("plain 0 0 0 0 0;plain 1 1 1 0 0;plain 2 0 2 0 0;cost 2 5;"), -4, -4);
+        cheap("0 and 2 of a trade", Due.allHere("plain 0 0 0 0 0;plain 1 1 1 0 0;plain 0 2 2 0 0;cost 2 5;"), 2, 7);
+        cheap("0 and 2 of a tale", Due.allHere("plain 0 0 0 0 0;plain 1 1 1 0 0;plain 2 2 0 0 0;cost 2 5;"), 5, 7);
+        String five = "plain 1 1 1 0 0;plain 2 2 2 0 0;plain 3 3 3 0 0;seats 5;cost 2 5;";
+        cheap("the first and the last of five, of a town", Due.allHere("plain 0 0 0 0 0;" + five + "plain 4 0 4 0 0;"), -4, -4);
+        cheap("of a trade and a tale", Due.allHere("plain 0 0 0 0 0;" + five + "plain 0 4 0 0 0;"), 7, 31);
     }
 
     private static void cheapHere() {

@@ -8,6 +8,7 @@ final class EdgeOddsTest {
         lowestTerms();
         noneGoesAllGo();
         aboardStay();
+        anyTwo();
         manyWait();
         someWait();
         fillingsAlone();
@@ -106,6 +107,23 @@ final class EdgeOddsTest {
         odds("three of four are aboard", y, 3, 7, 10);
         DUE.is("nobody went away", y.rule(6), 32);
         DUE.is("nobody went away", y.rule(7), 64 + 128 + 256);
+    }
+
+    private static void anyTwo() {
+        DUE.says(28, "Each who WAITS .. a FILLING out of those left, whoever he is and whoever is ABOARD");
+        String nine = "admiral0 0 0 9 9;".repeat(9);
+        for (int aboard = 0; aboard < 9; aboard++) {
+            for (int waits = 0; waits < 9; waits++) {
+                UnlikeFerry x = Due.told(nine);
+                x.come(aboard);
+                x.seats(2);
+                x.board(aboard);
+                boolean two = x.come(waits) == 1;
+                String when = aboard + " is aboard, " + waits + " waits";
+                odds(when, x, 3, two ? 7 : 0, two ? 10 : 1);
+                mean(when, x, 3, two ? 7 : 0, two ? 10 : 1);
+            }
+        }
     }
 
     private static void manyWait() {

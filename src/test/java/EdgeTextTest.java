@@ -100,6 +100,15 @@ final class EdgeTextTest {
         for (int what = 0; what < row.length; what++) {
             DUE.is("one(0, " + what + ")", x.one(0, what), row[what]);
         }
+        String[] wrong = {"$", "1", ";", "a", "111", "seats", "seats 2", "seats 2 3", "seats 9", "here 0;here 0;", "here 0;"};
+        for (String refused : wrong) {
+            for (int blanks = 0; blanks <= 4; blanks++) {
+                DUE.is("text() of " + refused, Due.tell(x, refused) < 0 ? 1 : 0, 1);
+                DUE.is("text() of " + blanks + " blanks behind it", Due.tell(x, " ".repeat(blanks)), 0);
+                DUE.is("fault()", x.fault(), 0);
+            }
+            x = new UnlikeFerry();
+        }
     }
 
     private static void bytesBeyond() {

@@ -25,7 +25,7 @@ final class ModelTest {
 
     public static void main(String[] args) {
         Due due = new Due();
-        for (int run = 0; run < 800; run++) {
+        for (int run = 0; run < 4000; run++) {
             new ModelTest(run, due).play();
         }
         due.finish("ModelTest");
